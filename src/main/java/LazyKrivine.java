@@ -103,7 +103,7 @@ public final class LazyKrivine {
             return REFUSED;
         }
         int children = childrenOf(kind);
-        if (children >= 1 && !exists(a) || children >= 2 && !exists(b) || children >= 3 && !exists(c)) {
+        if ((children >= 1 && !exists(a)) || (children >= 2 && !exists(b)) || (children >= 3 && !exists(c))) {
             return REFUSED;
         }
         int node = size;
@@ -233,8 +233,6 @@ public final class LazyKrivine {
         allowance = 0;
         heldEnvironment = EMPTY;
         environments = EMPTY + 1;
-        frames = 0;
-        phase = ENDED;
     }
 
     private int extend(int environment, int node, int nodeEnvironment) {
