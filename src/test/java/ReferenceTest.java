@@ -77,7 +77,8 @@ public final class ReferenceTest {
         }
         int b = someNode();
         int c = someNode();
-        Checks.due(name + " add(" + kind + ", " + a + ", " + b + ", " + c + ")", x.add(kind, a, b, c), y.add(kind, a, b, c));
+        String call = name + " add(" + kind + ", " + a + ", " + b + ", " + c + ")";
+        Checks.due(call, x.add(kind, a, b, c), y.add(kind, a, b, c));
     }
 
     private void callOne() {
