@@ -1,5 +1,8 @@
 /** What the tests share: comparing answers, seeing a whole state, and making nodes by name. */
 final class Checks {
+    static final int MIN = Integer.MIN_VALUE;
+    static final int MAX = Integer.MAX_VALUE;
+
     private static int wrong = 0;
     private static int made = 0;
 
@@ -31,11 +34,19 @@ final class Checks {
 
     /** Everything that can be seen of an object. */
     static String state(LazyKrivine x) {
-        StringBuilder seen = new StringBuilder(session(x));
-        for (int index = -1; index <= 40; index++) {
-            seen.append(index == -1 ? " captured " : ",").append(x.captured(index));
+        return session(x) + " captured " + bindings(x) + nodes(x);
+    }
+
+    static String bindings(LazyKrivine x) {
+        StringBuilder seen = new StringBuilder();
+        for (int index = -1; index <= 33; index++) {
+            seen.append(index == -1 ? "" : ",").append(x.captured(index));
         }
-        seen.append(" size ").append(x.size());
+        return seen.toString();
+    }
+
+    static String nodes(LazyKrivine x) {
+        StringBuilder seen = new StringBuilder(" size ").append(x.size());
         for (int node = -1; node <= 33; node++) {
             seen.append(" (").append(x.kind(node));
             for (int which = -1; which <= 3; which++) {
@@ -61,8 +72,14 @@ final class Checks {
         due(what + " result()", x.result(), result);
         due(what + " charge()", x.charge(), charge);
         if (outcome != LazyKrivine.FUNCTION) {
-            due(what + " captured(0)", x.captured(0), -1);
+            holdsNothing(what, x);
         }
+    }
+
+    static void holdsNothing(String what, LazyKrivine x) {
+        due(what + " captured(0)", x.captured(0), -1);
+        due(what + " supply(0)", x.supply(0), LazyKrivine.REFUSED);
+        due(what + " demand(0)", x.demand(0), LazyKrivine.REFUSED);
     }
 
     /** A start with the greatest allowance. */
