@@ -310,7 +310,7 @@ public final class ArenaTest {
 
     /** "`size()` answers the number of nodes that exist." */
     private static void sizeCountsTheNodes() {
-        int[] sizes = {10, 10, 10, 10, 10, 10, 10, 10, 0, 0, 32, 9, 8};
+        int[] sizes = {10, 10, 10, 10, 10, 10, 10, 10, 0, 0, 9, 32, 9, 8};
         for (int state = 0; state < States.COUNT; state++) {
             LazyKrivine x = States.make(state);
             Checks.due("promise 4: size() when " + States.name(state), x.size(), sizes[state]);

@@ -42,7 +42,7 @@ public final class DemandTest {
 
     /** ".. (negative ..)" */
     private static void refusedForNegativeIndices() {
-        for (int state : new int[] {LazyKrivine.FUNCTION, States.FULL}) {
+        for (int state : new int[] {LazyKrivine.FUNCTION, States.HOLDING, States.FULL}) {
             for (int index : new int[] {MIN, MIN + 1, -240, -2, -1}) {
                 refused(state, index);
             }
@@ -55,6 +55,7 @@ public final class DemandTest {
             refused(LazyKrivine.FUNCTION, index);
         }
         for (int index : new int[] {2, 3, 31, 32, 240, 241, MAX}) {
+            refused(States.HOLDING, index);
             refused(States.FULL, index);
         }
     }
@@ -228,7 +229,7 @@ public final class DemandTest {
 
     /** "The allowance and the nodes stay." */
     private static void allowanceAndNodesStay() {
-        for (int state : new int[] {LazyKrivine.FUNCTION, States.FULL, States.SPENT}) {
+        for (int state : States.HOLDERS) {
             for (int index = 0; index < 2; index++) {
                 LazyKrivine x = States.make(state);
                 String before = Checks.nodes(x);

@@ -32,8 +32,10 @@ public final class EvaluationTest {
         quotientsByZero();
         nodesAreChargedEachTime();
         nestingHasNoLimit();
+        faultsHoweverNested();
         nestingUntilExhausted();
         environmentsHaveNoLimit();
+        oldEnvironmentsStay();
         longestEnvironment();
         Checks.finish();
     }
@@ -423,19 +425,35 @@ public final class EvaluationTest {
         }
     }
 
-    /** "There is no limit on nesting": n + 20 within n + 20 within .., up to a hundred operators that wait. */
-    private static void nestingHasNoLimit() {
-        LazyKrivine x = Checks.fresh();
+    /** A function that adds 1 so often, each ADD waiting for the one within it; node 0 is 1, node 1 its argument. */
+    private static int counting(LazyKrivine x, int times) {
         int one = Checks.literal(x, 1);
         int node = Checks.variable(x, 0);
-        for (int level = 0; level < 20; level++) {
+        for (int level = 0; level < times; level++) {
             node = Checks.operator(x, LazyKrivine.ADD, node, one);
         }
-        int function = Checks.lambda(x, node);
-        int whole = one;
+        return Checks.lambda(x, node);
+    }
+
+    /** "There is no limit on nesting" */
+    private static void nestingHasNoLimit() {
+        LazyKrivine x = Checks.fresh();
+        int function = counting(x, 22);
+        int whole = 0;
         for (int round = 1; round <= 5; round++) {
             whole = Checks.apply(x, function, whole);
-            Checks.runs("nesting " + round, x, whole, LazyKrivine.INTEGER, 1 + 20 * round, 1 + 43 * round);
+            Checks.runs("nesting " + round, x, whole, LazyKrivine.INTEGER, 1 + 22 * round, 1 + 47 * round);
+        }
+    }
+
+    private static void faultsHoweverNested() {
+        LazyKrivine x = Checks.fresh();
+        int function = counting(x, 18);
+        int open = 1;
+        int whole = open;
+        for (int round = 1; round <= 11; round++) {
+            whole = Checks.apply(x, function, whole);
+            Checks.runs(18 * round + " waiting", x, whole, LazyKrivine.UNBOUND, open, 1 + 21 * round);
         }
     }
 
@@ -458,6 +476,22 @@ public final class EvaluationTest {
         for (int round = 0; round < 3; round++) {
             Checks.runs("an environment at nearly every charge", x, whole, LazyKrivine.EXHAUSTED, 0, 240);
         }
+    }
+
+    /** The first environment is asked for again when there are more than two hundred others. */
+    private static void oldEnvironmentsStay() {
+        LazyKrivine x = Checks.fresh();
+        int one = Checks.literal(x, 1);
+        int chain = recursivesOver(x, one, 24);
+        int node = chain;
+        for (int level = 0; level < 3; level++) {
+            node = Checks.operator(x, LazyKrivine.ADD, node, node);
+        }
+        int nine = Checks.operator(x, LazyKrivine.ADD, node, chain);
+        int sum = Checks.operator(x, LazyKrivine.ADD, nine, Checks.variable(x, 0));
+        int function = Checks.lambda(x, sum);
+        x.start(function, 240);
+        Checks.ends("216 other environments", x, x.supply(one), LazyKrivine.INTEGER, 10, 238);
     }
 
     private static void longestEnvironment() {

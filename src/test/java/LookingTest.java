@@ -42,6 +42,7 @@ public final class LookingTest {
             Checks.session(LazyKrivine.IDLE, 0, 0, 0),
             Checks.session(LazyKrivine.IDLE, 0, 0, 0),
             Checks.session(LazyKrivine.FUNCTION, 4, 5, 100),
+            Checks.session(LazyKrivine.FUNCTION, 4, 5, 100),
             Checks.session(LazyKrivine.FUNCTION, 4, 5, 5),
             Checks.session(LazyKrivine.INTEGER, 105, 1, 10)};
         for (int state = 0; state < States.COUNT; state++) {
@@ -236,7 +237,7 @@ public final class LookingTest {
 
     /** ".. for a negative index" */
     private static void capturedNeedsAnIndexOfZeroOrMore() {
-        for (int state : new int[] {LazyKrivine.FUNCTION, States.FULL, States.SPENT}) {
+        for (int state : States.HOLDERS) {
             for (int index : new int[] {MIN, MIN + 1, -240, -2, -1}) {
                 String what = "promise 14: captured(" + index + ") when " + States.name(state);
                 Checks.due(what, States.make(state).captured(index), -1);
@@ -250,6 +251,7 @@ public final class LookingTest {
             String what = "promise 14: captured(" + index + ")";
             Checks.due(what, States.make(LazyKrivine.FUNCTION).captured(index), -1);
             if (index >= 2) {
+                Checks.due(what + " when holding", States.make(States.HOLDING).captured(index), -1);
                 Checks.due(what + " when full", States.make(States.FULL).captured(index), -1);
                 Checks.due(what + " when spent", States.make(States.SPENT).captured(index), -1);
             }
@@ -264,7 +266,7 @@ public final class LookingTest {
     /** "the node of that binding" */
     private static void capturedIsTheNodeOfTheBinding() {
         Checks.due("promise 14: captured(0)", States.make(LazyKrivine.FUNCTION).captured(0), 9);
-        for (int state : new int[] {States.FULL, States.SPENT}) {
+        for (int state : new int[] {States.HOLDING, States.FULL, States.SPENT}) {
             Checks.due("promise 14: captured(0) when " + States.name(state), States.make(state).captured(0), 1);
             Checks.due("promise 14: captured(1) when " + States.name(state), States.make(state).captured(1), 0);
         }

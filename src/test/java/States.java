@@ -1,14 +1,20 @@
+import java.util.Arrays;
+
 /** Objects in every kind of state, made the same way each time. States 0 to 7 are the outcomes. */
 final class States {
     static final int NEW = 8;
     static final int CLEARED = 9;
-    /** An arena of 32 nodes without room, and a held function with two bindings. */
-    static final int FULL = 10;
-    /** A held function with two bindings, and a charge that equals the allowance. */
-    static final int SPENT = 11;
+    /** A held function with two bindings, room for nodes, and a charge far below the allowance. */
+    static final int HOLDING = 10;
+    /** The same in an arena of 32 nodes without room. */
+    static final int FULL = 11;
+    /** The same with a charge that equals the allowance. */
+    static final int SPENT = 12;
     /** The smallest arena without room. */
-    static final int FULL_OF_EIGHT = 12;
-    static final int COUNT = 13;
+    static final int FULL_OF_EIGHT = 13;
+    static final int COUNT = 14;
+    /** The states in which a function is held. */
+    static final int[] HOLDERS = {LazyKrivine.FUNCTION, HOLDING, FULL, SPENT};
 
     /** The function held after holding(), whose bindings are node 1 and node 0. */
     static final int HELD = 4;
@@ -17,7 +23,7 @@ final class States {
 
     private static final String[] NAMES = {
         "IDLE", "INTEGER", "FUNCTION", "EXHAUSTED", "UNBOUND", "NOT_FUNCTION", "NOT_INTEGER", "ZERO_DIVISOR",
-        "new", "cleared", "full", "spent", "full of eight"};
+        "new", "cleared", "holding", "full", "spent", "full of eight"};
 
     private States() {
     }
@@ -35,6 +41,8 @@ final class States {
                 x = holding(100);
                 x.clear();
                 return x;
+            case HOLDING:
+                return holding(100);
             case FULL:
                 x = holding(100);
                 fill(x, 32);
@@ -61,7 +69,7 @@ final class States {
     }
 
     static boolean holds(int state) {
-        return state == LazyKrivine.FUNCTION || state == FULL || state == SPENT;
+        return Arrays.stream(HOLDERS).anyMatch(holder -> holder == state);
     }
 
     /** Makes literals until there are so many nodes. */

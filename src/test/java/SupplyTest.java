@@ -40,7 +40,7 @@ public final class SupplyTest {
 
     /** ".. or the node does not exist" */
     private static void refusedWithoutTheNode() {
-        for (int state : new int[] {LazyKrivine.FUNCTION, States.FULL}) {
+        for (int state : new int[] {LazyKrivine.FUNCTION, States.HOLDING, States.FULL}) {
             int size = States.make(state).size();
             for (int absent : new int[] {MIN, -32, -1, size, size + 1, 32, 33, MAX}) {
                 refused(state, absent);
@@ -215,7 +215,7 @@ public final class SupplyTest {
 
     /** "The allowance and the nodes stay." */
     private static void allowanceAndNodesStay() {
-        for (int state : new int[] {LazyKrivine.FUNCTION, States.FULL, States.SPENT}) {
+        for (int state : States.HOLDERS) {
             int size = States.make(state).size();
             for (int node = 0; node < size; node++) {
                 LazyKrivine x = States.make(state);
