@@ -10,9 +10,8 @@ public final class ReferenceTest {
     private static final int[] KINDS = {0, 0, 0, 1, 1, 1, 1, 2, 2, 2, 2, 3, 3, 4, 4, 4, 4, 4, 5, 5, 6, 7, 8, 9, 10, 11};
 
     private final Random random;
+    private final Pair pair;
     private final LazyKrivine x;
-    private final Reference y;
-    private final String name;
     // How often start, supply and demand ended with each outcome; the last column counts refusals.
     private static final int[][] ENDS = new int[3][9];
 
@@ -20,9 +19,8 @@ public final class ReferenceTest {
         random = new Random(seed);
         int cells = random.nextBoolean() ? 32 : oddInt();
         int limit = random.nextBoolean() ? 240 : random.nextInt(300);
-        name = "run " + seed;
-        x = new LazyKrivine(cells, limit);
-        y = new Reference(cells, limit);
+        pair = new Pair("run " + seed, cells, limit);
+        x = pair.x;
     }
 
     public static void main(String[] args) {
@@ -45,12 +43,11 @@ public final class ReferenceTest {
         }
         for (int call = 0; call < 40; call++) {
             callOne();
-            compare();
+            pair.compareNode(random.nextInt(34) - 1, random.nextInt(5) - 1);
         }
         if (random.nextInt(10) == 0) {
-            x.clear();
-            y.clear();
-            compare();
+            pair.clear();
+            pair.compareNode(0, 0);
         }
     }
 
@@ -77,8 +74,7 @@ public final class ReferenceTest {
         }
         int b = someNode();
         int c = someNode();
-        String call = name + " add(" + kind + ", " + a + ", " + b + ", " + c + ")";
-        Checks.due(call, x.add(kind, a, b, c), y.add(kind, a, b, c));
+        pair.add(kind, a, b, c);
     }
 
     private void callOne() {
@@ -88,33 +84,16 @@ public final class ReferenceTest {
         } else if (choice <= 3 || x.outcome() != LazyKrivine.FUNCTION && random.nextInt(8) != 0) {
             int node = someNode();
             int allowance = random.nextInt(3) == 0 ? random.nextInt(20) : random.nextBoolean() ? 240 : oddInt();
-            ended(0, "start(" + node + ", " + allowance + ")", x.start(node, allowance), y.start(node, allowance));
+            ended(0, pair.start(node, allowance));
         } else if (choice <= 6) {
-            int node = someNode();
-            ended(1, "supply(" + node + ")", x.supply(node), y.supply(node));
+            ended(1, pair.supply(someNode()));
         } else {
             int index = random.nextInt(4) == 0 ? oddInt() : random.nextInt(3);
-            ended(2, "demand(" + index + ")", x.demand(index), y.demand(index));
+            ended(2, pair.demand(index));
         }
     }
 
-    private void ended(int call, String what, int got, int want) {
-        Checks.due(name + " " + what, got, want);
-        ENDS[call][want < 0 ? 8 : want]++;
-    }
-
-    private void compare() {
-        Checks.due(name + " outcome()", x.outcome(), y.outcome);
-        Checks.due(name + " result()", x.result(), y.result);
-        Checks.due(name + " charge()", x.charge(), y.charge);
-        Checks.due(name + " allowance()", x.allowance(), y.allowance);
-        Checks.due(name + " size()", x.size(), y.size());
-        for (int index = -1; index <= 32; index++) {
-            Checks.due(name + " captured(" + index + ")", x.captured(index), y.captured(index));
-        }
-        int node = random.nextInt(34) - 1;
-        Checks.due(name + " kind(" + node + ")", x.kind(node), y.kind(node));
-        int which = random.nextInt(5) - 1;
-        Checks.due(name + " part(" + node + ", " + which + ")", x.part(node, which), y.part(node, which));
+    private static void ended(int call, int answer) {
+        ENDS[call][answer < 0 ? 8 : answer]++;
     }
 }
